@@ -1,0 +1,114 @@
+import java.io.IOException;
+import java.lang.reflect.Constructor;
+import java.lang.reflect.Field;
+import java.lang.reflect.Method;
+import java.lang.reflect.Modifier;
+import java.nio.file.Files;
+import java.nio.file.Path;
+import java.util.TreeMap;
+import java.util.TreeSet;
+
+/** The public face of the document, and what LANGUAGE.md leaves out, as far as a test can see it. */
+final class FaceTests {
+    private static final Path SOURCE = Path.of("src/main/java/PoleNave.java");
+    private static final String[] FACE = {
+        "int row(int,int)", "int lay(int,int,int)", "int at(int,int)", "int tear(int)", "int copy(int,int,int,int,int)",
+        "int mean(int)", "int text(int,int)", "int put(int,int,int)", "int fault(int)", "int nave(int)",
+        "int pole(int,int)", "int one(int,int)", "int mark(int,int)", "int bears(int,int)", "int sit(int,int)",
+        "int down(int)", "int lace(int)", "int stone()", "int year()", "int undo(int)", "int keep(int)", "int on(int)",
+        "int holds()", "int gives(int)", "int later(int)", "int best(int)", "int fewest()", "int seated(int)",
+        "int laces(int,int)", "int strengths(int,int)", "int kinds(int,int)", "int test(int,int)", "int duel(int)",
+        "int odds(int,int)", "int mid(int)", "int lots(int,int)", "int asked()", "long upper()", "long lower()",
+        "int count(int)", "int finding()", "int findings(int)", "long digest()",
+    };
+
+    static void allMethodsOfTheFace() {
+        TreeSet<String> due = new TreeSet<>();
+        for (String m : FACE) {
+            due.add(m);
+        }
+        TreeSet<String> names = new TreeSet<>();
+        TreeSet<String> found = new TreeSet<>();
+        for (Method m : PoleNave.class.getDeclaredMethods()) {
+            if (Modifier.isPublic(m.getModifiers())) {
+                names.add(m.getName());
+                found.add(signature(m));
+                Check.due("static " + m.getName(), Modifier.isStatic(m.getModifiers()) ? 1 : 0, 0);
+            }
+        }
+        if (!found.equals(due)) {
+            Check.fail("public methods are " + found + ", due are " + due);
+        }
+        for (Method m : PoleNave.class.getDeclaredMethods()) {
+            boolean hidden = Modifier.isPrivate(m.getModifiers());
+            if (!hidden && !Modifier.isPublic(m.getModifiers()) || hidden && names.contains(m.getName())) {
+                Check.fail("method " + m + " against rule 1");
+            }
+        }
+    }
+
+    private static String signature(Method m) {
+        StringBuilder s = new StringBuilder(m.getReturnType().getName()).append(' ').append(m.getName()).append('(');
+        for (Class<?> type : m.getParameterTypes()) {
+            s.append(s.charAt(s.length() - 1) == '(' ? "" : ",").append(type.getName());
+        }
+        return s.append(')').toString();
+    }
+
+    static void allConstantsOfTheFace() throws IllegalAccessException {
+        TreeMap<String, Integer> due = new TreeMap<>();
+        String[] names = {"BAD", "FULL", "FINDING", "STATE", "SPENT", "NONE"};
+        int[] values = {-1, -2, -3, -4, -6, -9};
+        for (int j = 0; j < names.length; j++) {
+            due.put(names[j], values[j]);
+        }
+        TreeMap<String, Integer> found = new TreeMap<>();
+        for (Field f : PoleNave.class.getDeclaredFields()) {
+            int m = f.getModifiers();
+            if (Modifier.isPublic(m)) {
+                found.put(f.getName(), f.getInt(null));
+            } else if (!Modifier.isPrivate(m)) {
+                Check.fail("field " + f + " against rule 1");
+            }
+            if (Modifier.isStatic(m) && !Modifier.isFinal(m)) {
+                Check.fail("field " + f + " against rule 5");
+            }
+        }
+        if (!found.equals(due)) {
+            Check.fail("public constants are " + found + ", due are " + due);
+        }
+        Constructor<?>[] made = PoleNave.class.getDeclaredConstructors();
+        Check.due("constructors", made.length, 1);
+        Check.due("parameters of the constructor", made[0].getParameterCount(), 0);
+        Check.due("final class", Modifier.isFinal(PoleNave.class.getModifiers()) ? 1 : 0, 1);
+        for (Class<?> c : PoleNave.class.getDeclaredClasses()) {
+            Check.due("static class " + c, Modifier.isStatic(c.getModifiers()) ? 1 : 0, 1);
+        }
+    }
+
+    static void allWordsOfTheLanguage() throws IOException {
+        String code = Files.readString(SOURCE).replaceAll("(?s)/\\*.*?\\*/", " ").replaceAll("//[^\n]*", " ");
+        TreeSet<String> words = new TreeSet<>();
+        for (String word : code.split("[^A-Za-z_0-9]+")) {
+            words.add(word);
+        }
+        String[] ruledOut = {
+            "throw", "throws", "try", "catch", "finally", "synchronized", "assert", "import", "package", "System.out",
+            "Object", "protected", "native", "volatile", "transient", "Thread", "Random", "Class", "NaN", "var",
+        };
+        for (String word : ruledOut) {
+            if (words.contains(word)) {
+                Check.fail("the word '" + word + "' against LANGUAGE.md");
+            }
+        }
+        String[] signs = {"->", "::", "@", "Exact", "System.currentTimeMillis", "System.nanoTime", "System.out", "\""};
+        for (String sign : signs) {
+            if (code.contains(sign)) {
+                Check.fail("the signs '" + sign + "' against LANGUAGE.md");
+            }
+        }
+    }
+
+    private FaceTests() {
+    }
+}
