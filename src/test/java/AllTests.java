@@ -10,7 +10,7 @@ public final class AllTests {
     };
     private static final Class<?>[] OF_ALL = {AgainstModel.class, FaceTests.class};
     private static final int PROMISES = 44;
-    private static final long LONGEST_MILLIS = 300_000;
+    private static final long LONGEST_MILLIS = 60_000;
 
     public static void main(String[] args) throws InterruptedException {
         TreeMap<String, Method> tests = new TreeMap<>();

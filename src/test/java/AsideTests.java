@@ -20,6 +20,10 @@ final class AsideTests {
         Check.due("digest() behind holds()", x.digest(), digest);
         x.year();
         Check.tells(x, "holds() of those that are up", x::holds, 10, 0);
+        PoleNave weak = Check.naveBy("p560 p502 p560 p501 m30 m40");
+        weak.sit(0, 1);
+        weak.sit(1, 3);
+        Check.tells(weak, "holds() of every other one", weak::holds, 5, 4);
         PoleNave edge = Check.naveBy("p505 m35");
         edge.sit(0, 0);
         Check.tells(edge, "holds() of one that bears just so much", edge::holds, 1, 0);
@@ -47,6 +51,9 @@ final class AsideTests {
         Check.refuses(x, "gives(lowest)", () -> x.gives(LOWEST), BAD);
         PoleNave empty = new PoleNave();
         Check.refuses(empty, "gives(0) without poles", () -> empty.gives(0), BAD);
+        PoleNave edge = Check.naveBy("p505 m35");
+        edge.sit(0, 0);
+        Check.aside(edge, "gives(0) of one that bears just so much", () -> edge.gives(0), 2);
         PoleNave y = Check.naveBy("l123 l140 m40");
         y.sit(0, 0);
         Check.aside(y, "gives(0) of a laced one", () -> y.gives(0), 11);
@@ -76,6 +83,12 @@ final class AsideTests {
         x.year();
         Check.tells(x, "later(0) of one that is down", () -> x.later(0), 10, 4);
         Check.tells(x, "later(2) behind a year", () -> x.later(2), 5, 5);
+        PoleNave worn = Check.naveBy("p510 p505 p505 p505 m35 m35");
+        worn.sit(0, 1);
+        worn.sit(1, 3);
+        worn.year();
+        Check.tells(worn, "later(0) with wear", () -> worn.later(0), 10, 0);
+        Check.tells(worn, "later(1) with wear", () -> worn.later(1), 0, 10);
     }
 
     static void promise27Best() {
@@ -102,6 +115,14 @@ final class AsideTests {
         PoleNave flat = Check.naveBy("p100 d160 m30 m31");
         Check.due("best(1), the ground least", flat.best(1), 1);
         Check.holds(flat, 1, NONE, 1);
+        PoleNave tall = Check.naveBy("p110 p911 p110 m19 m28");
+        Check.due("best(1) on the second", tall.best(1), 17);
+        Check.holds(tall, 1, 1, 1);
+        PoleNave fallen = Check.naveBy("p501 p500 m22 m11");
+        fallen.sit(0, 0);
+        fallen.year();
+        Check.due("best(1) with one down, one that bears nothing", fallen.best(1), 0);
+        Check.holds(fallen, 1, NONE, NONE);
         PoleNave none = Check.naveBy("p300 m19 m29");
         Check.due("best(1) of nothing that bears", none.best(1), 0);
         Check.holds(none, 1, NONE, NONE);
@@ -125,6 +146,10 @@ final class AsideTests {
         Check.tells(all, "fewest() by all", all::fewest, 4, 15);
         PoleNave last = Check.naveBy("p900p900p920 m30m30m30m30m30");
         Check.tells(last, "fewest() by the last one", last::fewest, 1, 4);
+        PoleNave late = Check.naveBy("p902p920 m10m20m30");
+        Check.tells(late, "fewest(), met late", late::fewest, 1, 2);
+        PoleNave pairs = Check.naveBy("p903p905p904p906 m30m40m20");
+        Check.tells(pairs, "fewest(), the least number met late", pairs::fewest, 2, 6);
         PoleNave none = Check.naveBy("p500 p102 m10 m40");
         none.sit(0, 1);
         Check.refuses(none, "fewest() of one who can't sit", none::fewest, NONE);
@@ -153,6 +178,11 @@ final class AsideTests {
         x.sit(0, 2);
         Check.fill(x, 0, 0, 1, 1);
         Check.tells(x, "seated(0), whoever is up", () -> x.seated(0), 0, 11);
+        PoleNave worn = Check.naveBy("p505 p505 m10 m20");
+        Check.fill(worn, 0, 0, 1);
+        Check.tells(worn, "seated(0) at first", () -> worn.seated(0), 0, 0);
+        Check.years(worn, 2);
+        Check.tells(worn, "seated(0) with wear", () -> worn.seated(0), 1, 0);
         seatedRefusals(x);
         PoleNave empty = new PoleNave();
         Check.refuses(empty, "seated(0) without poles", () -> empty.seated(0), STATE);
@@ -188,6 +218,17 @@ final class AsideTests {
         lacesOf(x, 3, 1, NONE, NONE, 0);
         lacesOf(x, 4, 1, NONE, NONE, 0, NONE);
         lacesOf(x, 5, 2, NONE, NONE, 0, NONE, 0);
+        PoleNave edge = Check.naveBy("p505 m35");
+        edge.sit(0, 0);
+        lacesOf(edge, 1, 0, NONE);
+        lacesOf(edge, 2, 1, NONE, 0);
+        PoleNave light = Check.naveBy("p503 m10");
+        light.sit(0, 0);
+        lacesOf(light, 2, 1, NONE, 0);
+        PoleNave second = Check.naveBy("p510 p505 p510 m35");
+        second.sit(0, 1);
+        second.year();
+        lacesOf(second, 2, 2, 1, 1);
         PoleNave two = Check.naveBy("p510p510 m35m35");
         two.sit(0, 0);
         two.sit(1, 1);

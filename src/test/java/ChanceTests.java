@@ -17,6 +17,14 @@ final class ChanceTests {
         PoleNave two = Check.naveBy("p510 p310 m35 m46 m28");
         two.sit(0, 0);
         duels(two, 5, 10, 5, 10, 5);
+        PoleNave second = Check.naveBy("p900 p505 m90 m34");
+        duels(second, 0, 4, 0, 4, 0);
+        second.sit(1, 1);
+        duels(second, 4, 4, 0, 4, 0);
+        PoleNave last = Check.naveBy("p900 p900 p900 p505 m90 m90 m90 m90 m34");
+        duels(last, 0, 4, 0, 4, 0);
+        PoleNave edge = Check.naveBy("p505 m35");
+        duels(edge, 0, 5, 0, 5, 0);
         PoleNave fallen = Check.naveBy("p500 m19 m19");
         fallen.sit(0, 0);
         fallen.year();
@@ -108,6 +116,8 @@ final class ChanceTests {
         Check.refuses(x, "mid(highest)", () -> x.mid(HIGHEST), BAD);
         Check.years(x, 3);
         midIs(x, 7, 5, 4);
+        x.sit(1, 2);
+        midIs(x, 7, 5, 2);
     }
 
     static void promise37Lots() {

@@ -193,6 +193,15 @@ final class DeedTests {
     }
 
     private static void undoMany() {
+        PoleNave worn = Check.naveBy("p510 p520 p530 p540 m35");
+        worn.sit(0, 1);
+        Check.years(worn, 2);
+        worn.undo(1);
+        for (int k = 0; k < 4; k++) {
+            Check.poleTells(worn, k, 3, 0);
+        }
+        Check.oneTells(worn, 0, 2, 1);
+        Check.due("count(3) behind undo(1)", worn.count(3), 0);
         PoleNave x = Check.naveBy("p510 m35");
         x.keep(1);
         x.lots(20, 77);

@@ -109,6 +109,17 @@ final class FaceTests {
         }
     }
 
+    /** All calls of a run live in one room: what a call made would stay there, so only fields and constructors make. */
+    static void allObjectsAreMadeAhead() throws IOException {
+        for (String line : Files.readAllLines(SOURCE)) {
+            boolean field = line.matches(" +(private )?final [A-Za-z\\[\\]]+ [A-Za-z]+ = new .*;");
+            boolean constructor = line.matches(" +(rows|texts|keptDeeds)\\[[rtk]\\] = new (Row|Deeds)\\(\\);");
+            if (line.matches(".*\\bnew .*") && !line.trim().startsWith("*") && !field && !constructor) {
+                Check.fail("a call makes an object: " + line.trim());
+            }
+        }
+    }
+
     private FaceTests() {
     }
 }

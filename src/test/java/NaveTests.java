@@ -126,6 +126,7 @@ final class NaveTests {
         x.sit(0, 0);
         x.keep(0);
         x.stone();
+        x.keep(1);
         x.year();
         x.keep(2);
         Check.fill(x, 1, 4);
@@ -138,6 +139,7 @@ final class NaveTests {
             Check.due("count(" + what + ") of a nave anew", x.count(what), counts[what]);
         }
         Check.finds(x, "on(0)", () -> x.on(0), Check.NOTHING);
+        Check.finds(x, "on(1)", () -> x.on(1), Check.NOTHING);
         Check.finds(x, "on(2)", () -> x.on(2), Check.NOTHING);
         Check.oneTells(x, 0, 2, NONE);
         Check.poleTells(x, 0, 3, 0);
