@@ -118,6 +118,9 @@ final class AsideTests {
         PoleNave tall = Check.naveBy("p110 p911 p110 m19 m28");
         Check.due("best(1) on the second", tall.best(1), 17);
         Check.holds(tall, 1, 1, 1);
+        PoleNave three = Check.naveBy("p110 p930 p110 m19 m19 m19");
+        Check.due("best(1) of three on the second", three.best(1), 27);
+        Check.holds(three, 1, 1, 1, 1);
         PoleNave fallen = Check.naveBy("p501 p500 m22 m11");
         fallen.sit(0, 0);
         fallen.year();
