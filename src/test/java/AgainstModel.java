@@ -1,9 +1,10 @@
-import java.lang.reflect.Method;
 import java.util.Arrays;
 
-/** Long runs of calls, the same ones each time, on PoleNave and on Model side by side. */
+/** Long runs of calls, the same ones each time, on PoleNave and on Model side by side; none goes beyond 512 calls. */
 final class AgainstModel {
-    private static final int RUNS = 240, STEPS = 400, WRONG_ENOUGH = 20;
+    private static final int RUNS = 1000, WRONG_ENOUGH = 20;
+    /** As many calls as a step can take (a text of 60 signs, a nave by it), and those at the end. */
+    private static final int LONGEST_STEP = 80, AT_THE_END = 8;
 
     /** Each call with a letter for each argument, whose ends stand in ENDS. */
     private static final String[][] CALLS = {
@@ -21,13 +22,14 @@ final class AgainstModel {
         {-1, 6}, {-1, 4}, {-1, 12}, {-1, 43}, {-30, 130}, {-1, 4}, {-1, 5}, {-1, 8}, {-1, 21}, {-1, 3}, {-1, 5}, {-1, 13},
         {1, 2147483646},
     };
-    private static final int[] WILD = {Check.LOWEST, Check.LOWEST + 1, -10, -9, -2, -1, 0, 1, 40, 41, 60, 61, 99, 100, 512,
-        Check.HIGHEST - 1, Check.HIGHEST};
+    private static final int[] WILD = {Tests.LOWEST, Tests.LOWEST + 1, -10, -9, -2, -1, 0, 1, 40, 41, 60, 61, 99, 100, 512,
+        Tests.HIGHEST - 1, Tests.HIGHEST};
 
     private final PoleNave nave = new PoleNave();
     private final Model model = new Model();
     private final StringBuilder path = new StringBuilder();
     private long seed;
+    private int calls;
 
     private AgainstModel(int run) {
         seed = 1000003L * run + 12345;
@@ -42,7 +44,7 @@ final class AgainstModel {
 
     private void go() throws ReflectiveOperationException {
         boolean alike = true;
-        for (int step = 0; step < STEPS && alike; step++) {
+        for (int step = 0; alike && calls <= Nave.MOST_CALLS - LONGEST_STEP - AT_THE_END; step++) {
             int what = pick(0, 99);
             if (step == 5 || what < 2) {
                 alike = writesNave();
@@ -54,6 +56,12 @@ final class AgainstModel {
                 String[] call = CALLS[pick(0, CALLS.length - 1)];
                 alike = same(call[0], arguments(call[1]));
             }
+        }
+        for (int f = 0; alike && f <= 6; f++) {
+            alike = answersAlike("findings", f);
+        }
+        if (calls > Nave.MOST_CALLS) {
+            Check.fail("a run of " + calls + " calls");
         }
     }
 
@@ -71,24 +79,26 @@ final class AgainstModel {
         return all;
     }
 
+    /** A call, and what it told or changed. */
     private boolean same(String name, Object... arguments) throws ReflectiveOperationException {
+        boolean alike = answersAlike(name, arguments);
+        if (name.equals("odds") || name.equals("mid")) {
+            alike = alike && answersAlike("upper") && answersAlike("lower");
+        }
+        return alike && answersAlike("asked") && answersAlike("finding") && answersAlike("digest");
+    }
+
+    private boolean answersAlike(String name, Object... arguments) throws ReflectiveOperationException {
         Class<?>[] types = new Class<?>[arguments.length];
         Arrays.fill(types, int.class);
         path.append(name).append(Arrays.toString(arguments)).append(' ');
-        Method real = PoleNave.class.getMethod(name, types);
-        Method plain = Model.class.getMethod(name, types);
-        Object got = real.invoke(nave, arguments);
-        Object want = plain.invoke(model, arguments);
-        if (got.equals(want) && alike()) {
-            return true;
+        calls++;
+        Object got = PoleNave.class.getMethod(name, types).invoke(nave, arguments);
+        Object want = Model.class.getMethod(name, types).invoke(model, arguments);
+        if (!got.equals(want)) {
+            Check.fail(name + Arrays.toString(arguments) + " answered " + got + ", the model " + want + ", behind " + path);
         }
-        Check.fail(name + Arrays.toString(arguments) + " answered " + got + ", the model " + want + ", behind " + path);
-        return false;
-    }
-
-    private boolean alike() {
-        return nave.asked() == model.asked() && nave.upper() == model.upper() && nave.lower() == model.lower()
-            && nave.finding() == model.finding() && nave.digest() == model.digest();
+        return got.equals(want);
     }
 
     private boolean writesNave() throws ReflectiveOperationException {
@@ -105,9 +115,9 @@ final class AgainstModel {
             signs.setCharAt(pick(0, signs.length() - 1), "pm 0169x".charAt(pick(0, 7)));
         }
         int t = pick(0, 3);
-        boolean alike = same("text", t, signs.length());
+        boolean alike = answersAlike("text", t, signs.length());
         for (int i = 0; i < signs.length() && alike; i++) {
-            alike = same("put", t, i, (int) signs.charAt(i));
+            alike = answersAlike("put", t, i, (int) signs.charAt(i));
         }
         return alike && same("fault", t) && same("nave", t);
     }
@@ -123,8 +133,9 @@ final class AgainstModel {
         boolean alike = same("row", r, 3 * many);
         for (int j = 0; j < many && alike; j++) {
             boolean held = pick(0, 1) == 1;
-            alike = same("lay", r, 3 * j, pick(0, 9)) && same("lay", r, 3 * j + 1, held ? pick(0, 12) : pick(5, 40))
-                && same("lay", r, 3 * j + 2, held ? 1 : 0);
+            alike = answersAlike("lay", r, 3 * j, pick(0, 9))
+                && answersAlike("lay", r, 3 * j + 1, held ? pick(0, 12) : pick(5, 40))
+                && answersAlike("lay", r, 3 * j + 2, held ? 1 : 0);
         }
         int k = pick(0, 3);
         return alike && same("strengths", k, r) && same("kinds", k, r) && same("test", k, r);
@@ -136,7 +147,7 @@ final class AgainstModel {
         boolean alike = same("row", r, many);
         for (int i = 0; i < many && alike; i++) {
             int k = pick(-1, model.count(0) - 1 + pick(0, 9) / 9);
-            alike = same("lay", r, i, k < 0 ? PoleNave.NONE : k);
+            alike = answersAlike("lay", r, i, k < 0 ? PoleNave.NONE : k);
         }
         return alike && same("seated", r);
     }

@@ -1,56 +1,72 @@
 import java.lang.reflect.InvocationTargetException;
 import java.lang.reflect.Method;
-import java.util.TreeMap;
+import java.util.ArrayList;
+import java.util.Comparator;
+import java.util.List;
 
 /** Runs every test; its last line tells how many passed and how many failed, its exit code whether one failed. */
 public final class AllTests {
-    private static final Class<?>[] OF_PROMISES = {
-        RowAndTextTests.class, NaveTests.class, DeedTests.class, AsideTests.class, TrialTests.class,
+    /** Their tests name a sentence of the document each. */
+    private static final Class<?>[] OF_SENTENCES = {
+        CallTests.class, AnswerTerms.class, TextTerms.class, PoleTerms.class, RowTests.class, TextTests.class, PoleTests.class,
+        DeedTests.class, UndoTests.class, HoldTests.class, SeatingTests.class, LacingTests.class, TrialTests.class,
         ChanceTests.class, ToldTests.class,
     };
-    private static final Class<?>[] OF_ALL = {AgainstModel.class, FaceTests.class};
-    private static final int PROMISES = 44;
-    private static final long LONGEST_MILLIS = 60_000;
+    /** Their tests are those whose names begin with "all". */
+    private static final Class<?>[] OF_ALL = {DocumentTests.class, FaceTests.class, AgainstModel.class};
+    private static final long LONGEST_MILLIS = 120_000;
 
     public static void main(String[] args) throws InterruptedException {
-        TreeMap<String, Method> tests = new TreeMap<>();
-        gather(OF_PROMISES, "promise", tests);
-        int failed = withoutTest(tests);
-        gather(OF_ALL, "all", tests);
-        int passed = 0;
-        for (Method test : tests.values()) {
-            if (passes(test)) {
-                passed++;
-            } else {
+        List<Method> tests = ofSentences();
+        tests.addAll(ofAll());
+        int failed = 0;
+        for (Method test : tests) {
+            if (!passes(test)) {
                 failed++;
-                System.out.println("failed: " + test.getName());
+                System.out.println("failed: " + name(test));
             }
         }
-        System.out.println(passed + " passed, " + failed + " failed");
+        System.out.println(tests.size() - failed + " passed, " + failed + " failed");
         System.exit(failed == 0 ? 0 : 1);
     }
 
-    private static void gather(Class<?>[] classes, String ahead, TreeMap<String, Method> tests) {
-        for (Class<?> c : classes) {
+    static List<Method> ofSentences() {
+        List<Method> tests = new ArrayList<>();
+        for (Class<?> c : OF_SENTENCES) {
             for (Method m : c.getDeclaredMethods()) {
-                if (m.getName().startsWith(ahead)) {
-                    tests.put(m.getName(), m);
+                if (m.isAnnotationPresent(Says.class)) {
+                    tests.add(m);
                 }
             }
         }
+        tests.sort(Comparator.comparing((Method m) -> m.getAnnotation(Says.class).promise()).thenComparing(AllTests::place));
+        return tests;
     }
 
-    private static int withoutTest(TreeMap<String, Method> tests) {
-        int missing = 0;
-        for (int promise = 1; promise <= PROMISES; promise++) {
-            String ahead = String.format("promise%02d", promise);
-            String next = tests.ceilingKey(ahead);
-            if (next == null || !next.startsWith(ahead)) {
-                System.out.println("failed: no test of " + ahead);
-                missing++;
+    private static List<Method> ofAll() {
+        List<Method> tests = new ArrayList<>();
+        for (Class<?> c : OF_ALL) {
+            for (Method m : c.getDeclaredMethods()) {
+                if (m.getName().startsWith("all")) {
+                    tests.add(m);
+                }
             }
         }
-        return missing;
+        tests.sort(Comparator.comparing(AllTests::place));
+        return tests;
+    }
+
+    private static String place(Method test) {
+        return test.getDeclaringClass().getSimpleName() + "." + test.getName();
+    }
+
+    static String name(Method test) {
+        Says says = test.getAnnotation(Says.class);
+        if (says == null) {
+            return place(test);
+        }
+        String number = says.promise() == Says.TERMS ? "terms" : "promise " + says.promise();
+        return number + ", \"" + says.sentence() + "\", " + place(test);
     }
 
     /** In a thread of its own, so that a call that doesn't end fails its test and not the whole run. */
@@ -62,7 +78,7 @@ public final class AllTests {
         thread.start();
         thread.join(LONGEST_MILLIS);
         if (thread.isAlive()) {
-            Check.fail(test.getName() + " doesn't end");
+            Check.fail(place(test) + " doesn't end");
         }
         return ended[0] && Check.wrongSoFar() == before;
     }
@@ -73,9 +89,9 @@ public final class AllTests {
             test.invoke(null);
             return true;
         } catch (InvocationTargetException e) {
-            System.out.println("    " + test.getName() + " threw " + e.getCause());
+            System.out.println("    " + place(test) + " threw " + e.getCause() + " by " + e.getCause().getCause());
         } catch (IllegalAccessException e) {
-            System.out.println("    " + test.getName() + " can't be called: " + e);
+            System.out.println("    " + place(test) + " can't be called: " + e);
         }
         return false;
     }

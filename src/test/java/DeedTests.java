@@ -1,264 +1,242 @@
-/** Promises 16 to 23: deeds, undone and kept. */
-final class DeedTests {
-    private static final int BAD = PoleNave.BAD, FULL = PoleNave.FULL, STATE = PoleNave.STATE, NONE = PoleNave.NONE;
-    private static final int LOWEST = Check.LOWEST, HIGHEST = Check.HIGHEST;
+/** Promises 16 to 20: deeds. */
+final class DeedTests extends Tests {
 
-    static void promise16Sit() {
-        PoleNave x = Check.naveBy("p510 d305 l400 m35 m93 m11 m77");
-        Check.due("sit(0, 0)", x.sit(0, 0), 5);
-        Check.due("sit(1, 0) by which it doesn't hold", x.sit(1, 0), 15);
-        Check.due("sit(2, 1)", x.sit(2, 1), 1);
-        Check.due("sit(3, 2)", x.sit(3, 2), 9);
-        Check.due("count(2)", x.count(2), 4);
-        Check.due("count(5)", x.count(5), 15);
-        Check.refuses(x, "sit(0, 1) of one who is up", () -> x.sit(0, 1), STATE);
-        Check.refuses(x, "sit(0, 0) where one is", () -> x.sit(0, 0), STATE);
-        x.year();
-        Check.refuses(x, "sit(0, 0) on one that is down", () -> x.sit(0, 0), STATE);
-        Check.due("sit(0, 1) from the ground again", x.sit(0, 1), 5);
-        int[][] bad = {{-1, 0}, {4, 0}, {1, -1}, {1, 3}, {0, 3}, {4, 2}, {HIGHEST, 0}, {1, LOWEST}, {1, NONE}};
-        for (int[] c : bad) {
-            Check.refuses(x, "sit(" + c[0] + ", " + c[1] + ")", () -> x.sit(c[0], c[1]), BAD);
+    @Says(promise = 16, sentence = "One goes up a POLE: the LOAD then.")
+    static void sitTellsTheLoad() {
+        Nave x = Nave.by("p510 d305 l400 k960 m35 m93 m11 m77 m99");
+        x.due(5, "sit", 0, 0).due(15, "sit", 1, 0).due(1, "sit", 2, 1).due(9, "sit", 3, 2).due(13, "sit", 4, 3);
+        x.due(5, "count", 2).due(31, "count", 5).due(22, "count", 6);
+        x.tells(1, 15, "pole", 0, 5).tells(1, 3, "pole", 0, 6).tells(1, 3, "one", 4, 2).tells(1, 0, "one", 1, 2);
+    }
+
+    @Says(promise = 16, sentence = "One goes up a POLE: the LOAD then.")
+    static void sitOfEachOneOnEachPole() {
+        for (int i = 0; i < 5; i++) {
+            for (int k = 0; k < 4; k++) {
+                Nave x = Nave.by("p110 p210 p310 p410 m19 m29 m39 m49 m59").due(i + 1 + (k + 1) / 2, "sit", i, k);
+                x.due(1 << i, "count", 5).tells(1, 1 << i, "pole", k, 6).tells(1, k, "one", i, 2).tells(1, k + 1, "one", i, 3);
+            }
         }
-        Check.stones(x, 40 - x.count(2));
-        Check.refuses(x, "sit(1, 1) behind 40 deeds", () -> x.sit(1, 1), FULL);
-        Check.refuses(x, "sit(0, 1) of one who is up behind 40 deeds", () -> x.sit(0, 1), STATE);
-        Check.refuses(x, "sit(1, 0) on one that is down behind 40 deeds", () -> x.sit(1, 0), STATE);
-        Check.refuses(x, "sit(1, 3) behind 40 deeds", () -> x.sit(1, 3), BAD);
-        PoleNave empty = new PoleNave();
-        Check.refuses(empty, "sit(0, 0) without poles", () -> empty.sit(0, 0), BAD);
-        PoleNave last = Check.naveBy("p510 m35");
-        Check.stones(last, 39);
-        Check.due("sit(0, 0) as deed 40", last.sit(0, 0), 5);
     }
 
-    static void promise17Down() {
-        PoleNave x = Check.naveBy("p560 d305 m38 m92");
-        x.sit(0, 0);
-        x.sit(1, 1);
-        Check.due("down(0)", x.down(0), 5);
-        Check.poleTells(x, 0, 6, 0);
-        Check.refuses(x, "down(0) of one on the ground", () -> x.down(0), STATE);
-        Check.due("down(1)", x.down(1), 2);
-        Check.due("count(2)", x.count(2), 4);
-        Check.due("count(5)", x.count(5), 0);
-        Check.due("sit(0, 1) behind down(0)", x.sit(0, 1), 4);
-        Check.refuses(x, "down(-1)", () -> x.down(-1), BAD);
-        Check.refuses(x, "down(2)", () -> x.down(2), BAD);
-        Check.refuses(x, "down(lowest)", () -> x.down(LOWEST), BAD);
-        Check.stones(x, 35);
-        Check.refuses(x, "down(0) behind 40 deeds", () -> x.down(0), FULL);
-        Check.refuses(x, "down(1) on the ground behind 40 deeds", () -> x.down(1), STATE);
-        Check.refuses(x, "down(2) behind 40 deeds", () -> x.down(2), BAD);
-        PoleNave thrown = Check.naveBy("p500 m10");
-        thrown.sit(0, 0);
-        thrown.year();
-        Check.refuses(thrown, "down(0) of one who was let down", () -> thrown.down(0), STATE);
-        PoleNave empty = new PoleNave();
-        Check.refuses(empty, "down(0) without people", () -> empty.down(0), BAD);
-    }
-
-    static void promise18Lace() {
-        PoleNave x = Check.naveBy("p560 p500 m38 m92");
-        Check.due("lace(0) at first", x.lace(0), 0);
-        x.sit(0, 0);
-        x.sit(1, 1);
-        Check.years(x, 3);
-        Check.poleTells(x, 0, 3, 6);
-        Check.due("lace(0)", x.lace(0), 6);
-        Check.poleTells(x, 0, 3, 0);
-        Check.poleTells(x, 0, 6, 1);
-        Check.due("lace(0) again", x.lace(0), 0);
-        Check.due("count(2)", x.count(2), 8);
-        Check.refuses(x, "lace(1) that is down", () -> x.lace(1), STATE);
-        Check.refuses(x, "lace(-1)", () -> x.lace(-1), BAD);
-        Check.refuses(x, "lace(2)", () -> x.lace(2), BAD);
-        Check.refuses(x, "lace(highest)", () -> x.lace(HIGHEST), BAD);
-        x.year();
-        Check.poleTells(x, 0, 3, 2);
-        Check.stones(x, 31);
-        Check.refuses(x, "lace(0) behind 40 deeds", () -> x.lace(0), FULL);
-        Check.refuses(x, "lace(1) that is down behind 40 deeds", () -> x.lace(1), STATE);
-        Check.refuses(x, "lace(2) behind 40 deeds", () -> x.lace(2), BAD);
-        PoleNave empty = new PoleNave();
-        Check.refuses(empty, "lace(0) without poles", () -> empty.lace(0), BAD);
-    }
-
-    static void promise19Stone() {
-        PoleNave empty = new PoleNave();
-        Check.refuses(empty, "stone() without poles", empty::stone, STATE);
-        PoleNave x = Check.naveBy("p560 m38");
-        x.year();
-        for (int many = 1; many <= 39; many++) {
-            Check.due("stone()", x.stone(), many);
+    @Says(promise = 16, sentence = "BAD")
+    static void sitOfOneWhoThereIsNot() {
+        for (int k : new int[] {0, 1, 2}) {
+            Nave x = Nave.by("p510 d305 m35 m93 m11");
+            for (int i : outside(0, 2)) {
+                x.refuses(BAD, "sit", i, k);
+            }
         }
-        Check.due("count(7)", x.count(7), 39);
-        Check.due("count(2)", x.count(2), 40);
-        Check.refuses(x, "stone() behind 40 deeds", x::stone, FULL);
-        Check.poleTells(x, 0, 3, 1);
+        new Nave().refuses(BAD, "sit", 0, 0).refuses(BAD, "sit", -1, 0);
+        Nave.by("p510 m35").refuses(BAD, "sit", 1, 0).due(5, "sit", 0, 0);
+        Nave.by("p510 m11 m11 m11 m11 m35").refuses(BAD, "sit", 5, 0).due(5, "sit", 4, 0);
     }
 
-    static void promise20Year() {
-        PoleNave empty = new PoleNave();
-        Check.refuses(empty, "year() without poles", empty::year, STATE);
-        PoleNave x = Check.naveBy("p560 p503 r560 p504 m38 m31 m41 m40");
-        x.sit(0, 0);
-        x.sit(2, 1);
-        x.sit(3, 3);
-        Check.due("year() by which one gives", x.year(), 2);
-        Check.oneTells(x, 2, 2, NONE);
-        Check.oneTells(x, 3, 2, 3);
-        Check.poleTells(x, 0, 3, 2);
-        Check.poleTells(x, 1, 3, 0);
-        Check.poleTells(x, 2, 3, 1);
-        Check.poleTells(x, 3, 3, 2);
-        Check.due("year() of one that bears as much as is on it", x.year(), 8);
-        Check.due("year() by which none gives", x.year(), 0);
-        Check.poleTells(x, 0, 3, 6);
-        Check.poleTells(x, 1, 3, 0);
-        Check.poleTells(x, 2, 3, 3);
-        Check.poleTells(x, 3, 3, 2);
-        Check.due("count(3)", x.count(3), 3);
-        Check.due("count(4)", x.count(4), 10);
-        Check.due("count(2)", x.count(2), 6);
-        Check.stones(x, 34);
-        Check.refuses(x, "year() behind 40 deeds", x::year, FULL);
-        wearEnds();
-        manyGiveAtOnce();
-    }
-
-    private static void wearEnds() {
-        PoleNave x = Check.naveBy("d930 p110 m10");
-        x.year();
-        x.sit(0, 0);
-        Check.years(x, 9);
-        Check.poleTells(x, 0, 3, 19);
-        Check.poleTells(x, 1, 3, 10);
-        x.year();
-        Check.poleTells(x, 0, 3, 20);
-        x.year();
-        Check.poleTells(x, 0, 3, 20);
-        Check.years(x, 8);
-        Check.poleTells(x, 1, 3, 20);
-        x.year();
-        Check.poleTells(x, 1, 3, 20);
-        Check.due("count(3)", x.count(3), 21);
-        Check.due("count(4)", x.count(4), 0);
-    }
-
-    private static void manyGiveAtOnce() {
-        PoleNave x = Check.naveBy("p500 p501 p502 p503 m10 m20 m30 m30");
-        for (int i = 0; i < 4; i++) {
-            x.sit(i, i);
+    @Says(promise = 16, sentence = "BAD")
+    static void sitOnAPoleThatThereIsNot() {
+        for (int i : new int[] {0, 2, 3}) {
+            Nave x = Nave.by("p510 d305 m35 m93 m11");
+            for (int k : outside(0, 1)) {
+                x.refuses(BAD, "sit", i, k);
+            }
         }
-        Check.due("year() by which three give", x.year(), 7);
-        Check.due("count(5)", x.count(5), 8);
-        Check.due("year() by which the last one gives", x.year(), 8);
-        Check.due("year() with all down", x.year(), 0);
-        Check.due("count(3)", x.count(3), 3);
+        Nave.by("p510 m35").refuses(BAD, "sit", 0, 1).due(5, "sit", 0, 0);
+        Nave.by("p510 p510 p510 p510 m35").refuses(BAD, "sit", 0, 4).due(5, "sit", 0, 3);
     }
 
-    static void promise21Undo() {
-        PoleNave empty = new PoleNave();
-        Check.aside(empty, "undo(0) without poles", () -> empty.undo(0), 0);
-        Check.refuses(empty, "undo(1) without poles", () -> empty.undo(1), BAD);
-        long[] digests = new long[8];
-        PoleNave x = Check.naveBy("p510 k605 m35 m93 m11");
-        Check.fill(x, 0, 4, 5);
-        digests[0] = x.digest();
-        x.sit(0, 0);
-        digests[1] = x.digest();
-        x.sit(1, 1);
-        digests[2] = x.digest();
-        x.year();
-        digests[3] = x.digest();
-        x.stone();
-        digests[4] = x.digest();
-        x.lace(0);
-        digests[5] = x.digest();
-        x.down(0);
-        digests[6] = x.digest();
-        x.year();
-        digests[7] = x.digest();
-        Check.refuses(x, "undo(-1)", () -> x.undo(-1), BAD);
-        Check.refuses(x, "undo(8)", () -> x.undo(8), BAD);
-        Check.refuses(x, "undo(highest)", () -> x.undo(HIGHEST), BAD);
-        Check.refuses(x, "undo(lowest)", () -> x.undo(LOWEST), BAD);
-        Check.aside(x, "undo(7)", () -> x.undo(7), 0);
-        for (int n = 6; n >= 0; n--) {
-            Check.due("undo(" + n + ")", x.undo(n), 1);
-            Check.due("digest() behind undo(" + n + ")", x.digest(), digests[n]);
+    @Says(promise = 16, sentence = "STATE: one is up, or the POLE is DOWN;")
+    static void sitOfOneWhoIsUp() {
+        Nave x = Nave.by("p510 d305 m35 m93").sits(0, 0);
+        x.refuses(STATE, "sit", 0, 0).refuses(STATE, "sit", 0, 1).refuses(BAD, "sit", 0, 2).due(9 + 1, "sit", 1, 1);
+        x.refuses(STATE, "sit", 1, 0).refuses(STATE, "sit", 1, 1).due(5, "down", 0).due(3 + 1 + 10, "sit", 0, 1);
+    }
+
+    @Says(promise = 16, sentence = "STATE: one is up, or the POLE is DOWN;")
+    static void sitOnAPoleThatIsDown() {
+        Nave x = Nave.by("p500 p560 p500 m10 m35 m20").sits(0, 2).sits(1, 1).due(4, "year");
+        x.refuses(STATE, "sit", 0, 2).refuses(STATE, "sit", 2, 2).refuses(STATE, "sit", 1, 2).refuses(STATE, "sit", 1, 1);
+        x.due(1, "sit", 0, 0).due(1, "year").refuses(STATE, "sit", 0, 0).due(6, "sit", 0, 1);
+        x.due(1, "undo", 5).due(1, "undo", 4).due(0, "down", 0).due(1, "sit", 0, 0);
+    }
+
+    @Says(promise = 16, sentence = "FULL: 40 DEEDS.")
+    static void sitBehindFortyDeeds() {
+        Nave x = Nave.by("p510 d305 m35 m93").deeds(38).due(5, "sit", 0, 0).due(10, "sit", 1, 1).due(40, "count", 2);
+        Nave y = Nave.by("p510 d305 m35 m93").deeds(39).due(5, "sit", 0, 0).refuses(FULL, "sit", 1, 1);
+        y.due(1, "undo", 39).due(10, "sit", 1, 1);
+        Nave z = Nave.by("p510 d305 m35 m93").deeds(40).refuses(FULL, "sit", 0, 0).refuses(FULL, "sit", 1, 1);
+        z.due(0, "count", 5).due(0, "undo", 40).refuses(FULL, "sit", 0, 0).due(1, "undo", 39).due(5, "sit", 0, 0);
+    }
+
+    @Says(promise = 16, sentence = "(FULL last.)")
+    static void sitRefusedByTheFirst() {
+        Nave x = Nave.by("p500 d905 m35 m93 m22").sits(1, 1).sits(0, 0).due(1, "year").deeds(40);
+        x.refuses(BAD, "sit", 3, 1).refuses(BAD, "sit", 2, 2).refuses(BAD, "sit", 1, 2).refuses(BAD, "sit", -1, 0);
+        x.refuses(STATE, "sit", 1, 1).refuses(STATE, "sit", 1, 0).refuses(STATE, "sit", 2, 0).refuses(FULL, "sit", 2, 1);
+        x.refuses(FULL, "sit", 0, 1);
+        Nave y = Nave.by("p500 d905 m35 m93 m22").sits(1, 1).refuses(BAD, "sit", 1, 2).refuses(BAD, "sit", 3, 1);
+        y.sits(0, 0).due(1, "year").refuses(BAD, "sit", 3, 0);
+    }
+
+    @Says(promise = 17, sentence = "One comes down: how HIGH one was.")
+    static void downTellsHowHigh() {
+        Nave x = Nave.by("p560 d360 m38 m92 m15 m10 m13").sits(0, 0).sits(1, 1).sits(2, 0).sits(3, 1).sits(4, 1);
+        x.due(5, "down", 0).tells(1, 4, "pole", 0, 6).due(2, "down", 1).due(5, "down", 2).due(0, "down", 3).due(3, "down", 4);
+        x.due(10, "count", 2).due(0, "count", 5).due(0, "count", 6).tells(1, NONE, "one", 0, 2).tells(1, 0, "pole", 1, 5);
+        x.due(4, "sit", 0, 1).due(3, "down", 0);
+    }
+
+    @Says(promise = 17, sentence = "BAD")
+    static void downOfOneWhoThereIsNot() {
+        for (int many = 1; many <= 5; many++) {
+            Nave x = Nave.by("p560" + "m38".repeat(many)).sits(0, 0).sits(many - 1, 0);
+            for (int i : outside(0, many - 1)) {
+                x.refuses(BAD, "down", i);
+            }
+            x.due(5, "down", many - 1);
         }
-        undoMany();
+        new Nave().refuses(BAD, "down", 0).refuses(BAD, "down", -1);
     }
 
-    private static void undoMany() {
-        PoleNave worn = Check.naveBy("p510 p520 p530 p540 m35");
-        worn.sit(0, 1);
-        Check.years(worn, 2);
-        worn.undo(1);
+    @Says(promise = 17, sentence = "STATE: one is on the ground;")
+    static void downOfOneOnTheGround() {
+        Nave x = Nave.by("p560 p500 m38 m92").refuses(STATE, "down", 0).refuses(STATE, "down", 1).sits(0, 0);
+        x.refuses(STATE, "down", 1).due(5, "down", 0).refuses(STATE, "down", 0).sits(1, 1).due(2, "year");
+        x.refuses(STATE, "down", 1).due(1, "undo", 3).due(2, "down", 1).refuses(STATE, "down", 1);
+    }
+
+    @Says(promise = 17, sentence = "FULL.")
+    static void downBehindFortyDeeds() {
+        Nave.by("p560 m38").sits(0, 0).deeds(38).due(5, "down", 0).due(5, "sit", 0, 0).refuses(FULL, "down", 0);
+        Nave.by("p560 m38").sits(0, 0).deeds(39).due(5, "down", 0).due(40, "count", 2);
+        Nave x = Nave.by("p560 m38").sits(0, 0).deeds(40).refuses(FULL, "down", 0).due(1, "count", 5);
+        x.due(1, "undo", 39).due(5, "down", 0);
+    }
+
+    @Says(promise = 17, sentence = "(FULL last.)")
+    static void downRefusedByTheFirst() {
+        Nave x = Nave.by("p560 m38 m27").sits(0, 0).deeds(40);
+        x.refuses(BAD, "down", 2).refuses(BAD, "down", -1).refuses(STATE, "down", 1).refuses(FULL, "down", 0);
+    }
+
+    @Says(promise = 18, sentence = "A POLE is LACED: the WEAR that it had.")
+    static void laceTellsTheWear() {
+        Nave x = Nave.by("d960 p900 p960 p960 m10").due(0, "lace", 0).sits(0, 0).years(1).due(2, "lace", 0);
+        x.tells(1, 0, "pole", 0, 3).tells(1, 1, "pole", 2, 3).years(9).due(18, "lace", 0).years(10);
+        x.due(20, "lace", 0).due(0, "lace", 0).due(20, "lace", 2).due(20, "lace", 3).due(20, "lace", 1);
+        x.tells(1, 0, "pole", 0, 3).tells(1, 0, "pole", 2, 3).due(20, "count", 3).years(1);
+        x.tells(1, 2, "pole", 0, 3).tells(1, 1, "pole", 2, 3).tells(1, 1, "pole", 0, 6);
+    }
+
+    @Says(promise = 18, sentence = "A POLE is LACED: the WEAR that it had.")
+    static void laceIsOfThatPoleAlone() {
         for (int k = 0; k < 4; k++) {
-            Check.poleTells(worn, k, 3, 0);
+            Nave x = Nave.by("p160 r260 k360 d460 m10").years(3).due(3, "lace", k);
+            for (int other = 0; other < 4; other++) {
+                x.tells(1, other == k ? 0 : 3, "pole", other, 3).tells(1, other + 1, "pole", other, 1);
+            }
+            x.due(1, "count", 11).due(4, "count", 2).due(3, "count", 3);
         }
-        Check.oneTells(worn, 0, 2, 1);
-        Check.due("count(3) behind undo(1)", worn.count(3), 0);
-        PoleNave x = Check.naveBy("p510 m35");
-        x.keep(1);
-        x.lots(20, 77);
-        Check.due("undo(5) of lots", x.undo(5), 15);
-        Check.due("count(2)", x.count(2), 5);
-        PoleNave y = Check.naveBy("p510 m35");
-        y.keep(1);
-        y.lots(5, 77);
-        Check.due("digest() behind undo(5)", x.digest(), y.digest());
-        Check.stones(x, 35);
-        Check.due("undo(0) of 40", x.undo(0), 40);
-        Check.due("stone() behind undo(0)", x.stone(), 1);
-        Check.due("on(1) behind undo()", x.on(1), 0);
-        Check.due("count(7)", x.count(7), 0);
     }
 
-    static void promise22Keep() {
-        PoleNave x = Check.naveBy("p510 m35");
-        Check.due("keep(0)", x.keep(0), 0);
-        x.sit(0, 0);
-        x.year();
-        Check.due("keep(2)", x.keep(2), 2);
-        Check.due("count(10)", x.count(10), 2);
-        x.stone();
-        Check.due("keep(0) again", x.keep(0), 3);
-        Check.due("count(10)", x.count(10), 2);
-        Check.due("count(2) behind keep(0)", x.count(2), 3);
-        Check.refuses(x, "keep(-1)", () -> x.keep(-1), BAD);
-        Check.refuses(x, "keep(3)", () -> x.keep(3), BAD);
-        PoleNave empty = new PoleNave();
-        Check.refuses(empty, "keep(0) without poles", () -> empty.keep(0), STATE);
-        Check.refuses(empty, "keep(3) without poles", () -> empty.keep(3), BAD);
+    @Says(promise = 18, sentence = "BAD")
+    static void laceOfAPoleThatThereIsNot() {
+        for (int many = 1; many <= 4; many++) {
+            Nave x = Nave.by("p560".repeat(many) + "m38").years(2);
+            for (int k : outside(0, many - 1)) {
+                x.refuses(BAD, "lace", k);
+            }
+            x.due(2, "lace", many - 1);
+        }
+        new Nave().refuses(BAD, "lace", 0).refuses(BAD, "lace", -1);
     }
 
-    static void promise23On() {
-        PoleNave x = Check.naveBy("p510 m35");
-        x.sit(0, 0);
-        x.year();
-        x.stone();
-        x.keep(1);
-        long kept = x.digest();
-        x.undo(0);
-        x.stone();
-        x.stone();
-        Check.refuses(x, "on(-1)", () -> x.on(-1), BAD);
-        Check.refuses(x, "on(3)", () -> x.on(3), BAD);
-        Check.finds(x, "on(0)", () -> x.on(0), Check.NOTHING);
-        Check.due("on(1)", x.on(1), 3);
-        Check.due("digest() behind on(1)", x.digest(), kept);
-        Check.due("undo(2) of what was kept", x.undo(2), 1);
-        Check.due("count(7)", x.count(7), 0);
-        Check.poleTells(x, 0, 3, 2);
-        x.down(0);
-        Check.due("on(1) once more", x.on(1), 3);
-        Check.due("digest() behind on(1) once more", x.digest(), kept);
-        PoleNave empty = new PoleNave();
-        Check.finds(empty, "on(0) without poles", () -> empty.on(0), Check.NOTHING);
+    @Says(promise = 18, sentence = "STATE: it is DOWN;")
+    static void laceOfAPoleThatIsDown() {
+        Nave x = Nave.by("p560 p500 m38 m92").due(0, "lace", 1).sits(0, 0).sits(1, 1).due(2, "year").refuses(STATE, "lace", 1);
+        x.due(2, "lace", 0).years(1).refuses(STATE, "lace", 1).due(2, "undo", 4).due(1, "undo", 3).due(0, "lace", 1);
+    }
+
+    @Says(promise = 18, sentence = "FULL.")
+    static void laceBehindFortyDeeds() {
+        Nave.by("p560 m38").years(1).deeds(38).due(1, "lace", 0).due(0, "lace", 0).refuses(FULL, "lace", 0);
+        Nave.by("p560 m38").years(1).deeds(39).due(1, "lace", 0).due(40, "count", 2);
+        Nave x = Nave.by("p560 m38").years(1).deeds(40).refuses(FULL, "lace", 0).tells(1, 1, "pole", 0, 3);
+        x.due(1, "undo", 39).due(1, "lace", 0);
+    }
+
+    @Says(promise = 18, sentence = "(FULL last.)")
+    static void laceRefusedByTheFirst() {
+        Nave x = Nave.by("p560 p500 m38").sits(0, 1).due(2, "year").deeds(40);
+        x.refuses(BAD, "lace", 2).refuses(BAD, "lace", -1).refuses(STATE, "lace", 1).refuses(FULL, "lace", 0);
+    }
+
+    @Says(promise = 19, sentence = "A STONE is brought: how many lie there.")
+    static void stonesLieThere() {
+        Nave x = Nave.by("p560 m38").sits(0, 0);
+        for (int many = 1; many <= 39; many++) {
+            x.due(many, "stone").due(many, "count", 7);
+        }
+        x.due(40, "count", 2).due(0, "count", 3).tells(1, 5, "pole", 0, 5).tells(1, 0, "pole", 0, 3).due(3, "undo", 37);
+        x.due(36, "count", 7).due(37, "stone").due(0, "year").due(38, "stone");
+    }
+
+    @Says(promise = 19, sentence = "STATE: no POLES;")
+    static void stoneWithoutPoles() {
+        Nave x = new Nave().refuses(STATE, "stone").write(0, "p560").refuses(STATE, "nave", 0).refuses(STATE, "stone");
+        x.write(0, "p560m38").refuses(STATE, "stone").due(1, "nave", 0).due(1, "stone");
+        Nave.by("p500 m10").sits(0, 0).due(1, "year").due(1, "stone");
+    }
+
+    @Says(promise = 19, sentence = "FULL.")
+    static void stoneBehindFortyDeeds() {
+        Nave x = Nave.by("p560 m38").sits(0, 0).years(37).due(1, "stone").due(2, "stone").refuses(FULL, "stone");
+        x.refuses(FULL, "stone").due(1, "undo", 39).due(2, "stone").refuses(FULL, "stone").due(2, "count", 7);
+    }
+
+    @Says(promise = 19, sentence = "(FULL last.)")
+    static void stoneRefusedByTheFirst() {
+        Nave.by("p560 m38").deeds(40).refuses(FULL, "stone");
+        new Nave().refuses(STATE, "stone");
+    }
+
+    @Says(promise = 20, sentence = "A YEAR passes: POLES (bits) that GAVE.")
+    static void yearTellsWhatGave() {
+        for (int set = 0; set < 16; set++) {
+            StringBuilder signs = new StringBuilder();
+            for (int k = 0; k < 4; k++) {
+                signs.append((set >> k & 1) == 1 ? "p502" : "p503").append("m30");
+            }
+            Nave x = Nave.by(signs.toString());
+            for (int k = 0; k < 4; k++) {
+                x.sits(k, k);
+            }
+            x.due(set, "year").due(set, "count", 4).due(15 - set, "count", 5).due(1, "count", 3);
+            x.due(15 - set, "year").due(15, "count", 4).due(0, "count", 5).due(0, "year").due(3, "count", 3).due(7, "count", 2);
+        }
+    }
+
+    @Says(promise = 20, sentence = "STATE: no POLES;")
+    static void yearWithoutPoles() {
+        Nave x = new Nave().refuses(STATE, "year").write(0, "m38").refuses(STATE, "nave", 0).refuses(STATE, "year");
+        x.write(0, "p560m38").refuses(STATE, "year").due(1, "nave", 0).due(0, "year");
+        Nave.by("p500 m10").sits(0, 0).due(1, "year").due(0, "year");
+    }
+
+    @Says(promise = 20, sentence = "FULL.")
+    static void yearBehindFortyDeeds() {
+        Nave x = Nave.by("p504 m38").sits(0, 0).deeds(38).due(1, "year").due(0, "year").refuses(FULL, "year");
+        x.due(2, "count", 3).due(1, "undo", 39).due(0, "year").refuses(FULL, "year");
+        Nave y = Nave.by("p504 m38").sits(0, 0).deeds(39).due(1, "year").refuses(FULL, "year");
+        Nave z = Nave.by("p504 m38").sits(0, 0).deeds(40).refuses(FULL, "year").due(0, "count", 4).due(1, "count", 5);
+        z.due(1, "undo", 39).due(1, "year");
+        y.due(1, "count", 4);
+    }
+
+    @Says(promise = 20, sentence = "(FULL last.)")
+    static void yearRefusedByTheFirst() {
+        Nave.by("p560 m38").deeds(40).refuses(FULL, "year");
+        new Nave().refuses(STATE, "year");
     }
 
     private DeedTests() {
