@@ -25,6 +25,8 @@ final class AgainstModel {
     private static final int[] WILD = {Tests.LOWEST, Tests.LOWEST + 1, -10, -9, -2, -1, 0, 1, 40, 41, 60, 61, 99, 100, 512,
         Tests.HIGHEST - 1, Tests.HIGHEST};
 
+    private static final int[] ENDS_OF_INTS = {Tests.LOWEST, -1, 0, 1, Tests.HIGHEST};
+
     private final PoleNave nave = new PoleNave();
     private final Model model = new Model();
     private final StringBuilder path = new StringBuilder();
@@ -39,6 +41,33 @@ final class AgainstModel {
         int before = Check.wrongSoFar();
         for (int run = 0; run < RUNS && Check.wrongSoFar() - before < WRONG_ENOUGH; run++) {
             new AgainstModel(run).go();
+        }
+    }
+
+    /** Each call with the ends of all ints, and what is beside 0, for each of its arguments, without a nave and with one. */
+    static void allEndsOfIntsAgainstModel() throws ReflectiveOperationException {
+        for (String[] call : CALLS) {
+            eachOfTheEnds(call, false);
+            eachOfTheEnds(call, true);
+        }
+    }
+
+    private static void eachOfTheEnds(String[] call, boolean withNave) throws ReflectiveOperationException {
+        double many = Math.pow(ENDS_OF_INTS.length, call[1].length());
+        AgainstModel x = null;
+        boolean alike = true;
+        for (int j = 0; j < many && alike; j++) {
+            if (x == null || x.calls > Nave.MOST_CALLS - AT_THE_END) {
+                x = new AgainstModel(j);
+                alike = !withNave || x.writesNave();
+            }
+            Object[] arguments = new Object[call[1].length()];
+            int rest = j;
+            for (int a = 0; a < arguments.length; a++) {
+                arguments[a] = ENDS_OF_INTS[rest % ENDS_OF_INTS.length];
+                rest /= ENDS_OF_INTS.length;
+            }
+            alike = alike && x.same(call[0], arguments);
         }
     }
 

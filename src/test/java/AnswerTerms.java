@@ -121,10 +121,7 @@ final class AnswerTerms extends Tests {
 
     private static void refused(Nave x, String refusal) {
         String[] words = refusal.split(" ");
-        int[] numbers = new int[words.length - 2];
-        for (int j = 0; j < numbers.length; j++) {
-            numbers[j] = Integer.parseInt(words[j + 2]);
-        }
+        int[] numbers = Nave.numbers(words, 2);
         int answer = -1 - Arrays.asList(ANSWERS).indexOf(words[0]);
         if (answer < 0) {
             x.refuses(answer, words[1], numbers);

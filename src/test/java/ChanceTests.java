@@ -42,6 +42,7 @@ final class ChanceTests extends Tests {
         Nave x = duelsAre(Nave.by("p505 m35 m10").sits(0, 0), 5, 5, 0, 5, 0);
         duelsAre(x.sits(1, 0), 0, 0, 0, 0, 0);
         duelsAre(Nave.by("p505 m11 m25").sits(0, 0).sits(1, 0), 6, 6, 1, 6, 1);
+        duelsAre(Nave.by("p500 p960 m35 m35").sits(0, 1).sits(1, 1), 10, 10, 5, 10, 5);
     }
 
     @Says(promise = 34, sentence = DUEL)

@@ -1,4 +1,5 @@
 import java.io.IOException;
+import java.lang.management.ManagementFactory;
 import java.lang.reflect.Constructor;
 import java.lang.reflect.Field;
 import java.lang.reflect.Method;
@@ -86,37 +87,71 @@ final class FaceTests {
         }
     }
 
+    /** Rules 2, 4, 6, 13 and the file without a package line, as far as words and compiled methods show them. */
     static void allWordsOfTheLanguage() throws IOException {
         String code = Files.readString(SOURCE).replaceAll("(?s)/\\*.*?\\*/", " ").replaceAll("//[^\n]*", " ");
         TreeSet<String> words = new TreeSet<>();
         for (String word : code.split("[^A-Za-z_0-9]+")) {
             words.add(word);
+            if (word.endsWith("Exact")) {
+                Check.fail("the word '" + word + "' against LANGUAGE.md");
+            }
         }
         String[] ruledOut = {
-            "throw", "throws", "try", "catch", "finally", "synchronized", "assert", "import", "package", "System.out",
-            "Object", "protected", "native", "volatile", "transient", "Thread", "Random", "Class", "NaN", "var",
+            "throw", "throws", "try", "catch", "finally", "synchronized", "assert", "package", "Thread", "Random", "currentTimeMillis",
+            "nanoTime",
         };
         for (String word : ruledOut) {
             if (words.contains(word)) {
                 Check.fail("the word '" + word + "' against LANGUAGE.md");
             }
         }
-        String[] signs = {"->", "::", "@", "Exact", "System.currentTimeMillis", "System.nanoTime", "System.out", "\""};
-        for (String sign : signs) {
-            if (code.contains(sign)) {
-                Check.fail("the signs '" + sign + "' against LANGUAGE.md");
+        if (code.contains("::")) {
+            Check.fail("a method reference against LANGUAGE.md");
+        }
+        noLambdas(PoleNave.class);
+        for (Class<?> c : PoleNave.class.getDeclaredClasses()) {
+            noLambdas(c);
+        }
+    }
+
+    private static void noLambdas(Class<?> c) {
+        for (Method m : c.getDeclaredMethods()) {
+            if (m.getName().startsWith("lambda$")) {
+                Check.fail("a lambda in " + c + " against LANGUAGE.md");
             }
         }
     }
 
-    /** All calls of a run live in one room: what a call made would stay there, so only fields and constructors make. */
-    static void allObjectsAreMadeAhead() throws IOException {
-        for (String line : Files.readAllLines(SOURCE)) {
-            boolean field = line.matches(" +(private )?final [A-Za-z\\[\\]]+ [A-Za-z]+ = new .*;");
-            boolean constructor = line.matches(" +(rows|texts|keptDeeds)\\[[rtk]\\] = new (Row|Deeds)\\(\\);");
-            if (line.matches(".*\\bnew .*") && !line.trim().startsWith("*") && !field && !constructor) {
-                Check.fail("a call makes an object: " + line.trim());
-            }
+    /**
+     * All calls of a run live in one room of 7.3 million fields and elements, so the dearest calls of one object, taken
+     * 512 times, may not fill more than a hundredth of it.
+     */
+    static void allCallsStayInTheRoom() {
+        com.sun.management.ThreadMXBean memory = (com.sun.management.ThreadMXBean) ManagementFactory.getThreadMXBean();
+        PoleNave x = new PoleNave();
+        String signs = "d960l960k960r960m19m28m37m46m55";
+        x.text(0, signs.length());
+        for (int i = 0; i < signs.length(); i++) {
+            x.put(0, i, signs.charAt(i));
+        }
+        x.nave(0);
+        x.row(1, 39);
+        long most = 7_300_000L * Integer.BYTES / 100;
+        long before = memory.getThreadAllocatedBytes(Thread.currentThread().getId());
+        for (int j = 0; j < 64; j++) {
+            x.best(0);
+            x.fewest();
+            x.laces(5, 2);
+            x.duel(4);
+            x.test(0, 1);
+            x.lots(20, 7);
+            x.undo(0);
+            x.digest();
+        }
+        long made = memory.getThreadAllocatedBytes(Thread.currentThread().getId()) - before;
+        if (made > most) {
+            Check.fail("512 calls made " + made + " bytes of objects, at most " + most + " are well");
         }
     }
 

@@ -59,6 +59,7 @@ final class HoldTests extends Tests {
         Nave.by("p509 m35").sits(0, 0).aside(3, "gives", 0).years(2).due(1, "year");
         Nave.by("l506 m35").sits(0, 0).aside(2, "gives", 0);
         Nave.by("l507 m35").sits(0, 0).aside(3, "gives", 0);
+        Nave.by("p503 m10").sits(0, 0).aside(2, "gives", 0).due(0, "year").due(1, "year");
     }
 
     @Says(promise = 25, sentence = GIVING)

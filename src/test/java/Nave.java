@@ -51,6 +51,20 @@ final class Nave {
         }
     }
 
+    /** A call written as its name and its numbers, with blanks between. */
+    long callBy(String line) {
+        String[] words = line.split(" ");
+        return call(words[0], numbers(words, 1));
+    }
+
+    static int[] numbers(String[] words, int from) {
+        int[] numbers = new int[words.length - from];
+        for (int j = 0; j < numbers.length; j++) {
+            numbers[j] = Integer.parseInt(words[j + from]);
+        }
+        return numbers;
+    }
+
     private static String label(String name, int... numbers) {
         String list = Arrays.toString(numbers);
         return name + "(" + list.substring(1, list.length() - 1) + ")";

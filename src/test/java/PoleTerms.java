@@ -182,10 +182,22 @@ final class PoleTerms extends Tests {
         x.aside(NONE, "gives", 0).tellsParts(0, 1, "odds", 1, 0);
     }
 
+    /** One that gave by a LOAD of 10 would bear 9 yet, and each of the two is a LOAD of 5. */
+    @Says(promise = TERMS, sentence = GIVES)
+    static void downThoughItWouldBear() {
+        Nave x = Nave.by("p509 p500 m35 m35").sits(0, 0).sits(1, 0).due(1, "year").tells(1, 9, "pole", 0, 4).tells(2, 0, "holds");
+        x.due(0, "best", 1).rowIs(1, NONE, NONE).refuses(NONE, "fewest").fill(1, 0, NONE).finds(UNLIKE, "seated", 1);
+        x.aside(0, "duel", 0).aside(0, "duel", 1).aside(0, "duel", 2).aside(0, "duel", 3).aside(0, "duel", 4);
+        x.due(0, "laces", 5, 1).rowIs(1, NONE, NONE, NONE, NONE, NONE).aside(NONE, "gives", 0).tells(0, 1, "later", 1);
+        x.tellsParts(0, 1, "odds", 0, 0).tellsParts(0, 1, "mid", 0).refuses(STATE, "sit", 0, 0).refuses(STATE, "lace", 0);
+        x.due(0, "lots", 1, 10).due(1, "count", 7).due(0, "count", 5);
+    }
+
     @Says(promise = TERMS, sentence = GIVES)
     static void allWhoSitOnItAreOnTheGround() {
         Nave x = Nave.by("p524 p560 m15 m25 m35 m45 m55").sits(0, 0).sits(1, 0).sits(2, 0).sits(3, 0).sits(4, 0);
-        x.tells(1, 25, "pole", 0, 5).due(1, "year").due(0, "count", 5).due(0, "count", 6).tells(1, 0, "pole", 0, 5).tells(1, 0, "pole", 0, 6);
+        x.tells(1, 25, "pole", 0, 5).due(1, "year").due(0, "count", 5).due(0, "count", 6);
+        x.tells(1, 0, "pole", 0, 5).tells(1, 0, "pole", 0, 6);
         for (int i = 0; i < 5; i++) {
             x.tells(1, NONE, "one", i, 2);
         }
@@ -201,6 +213,32 @@ final class PoleTerms extends Tests {
         }
         x.due(5, "down", 0).due(0, "down", 1).due(0, "year").tells(1, 7, "pole", 0, 3).tells(1, 8, "pole", 1, 3).due(0, "down", 2);
         x.due(0, "year").tells(1, 8, "pole", 0, 3).tells(1, 9, "pole", 1, 3).tells(1, 5, "pole", 2, 3);
+    }
+
+    /** WEAR 0, 1, 2, 3 on four POLES alike, which bear 9, 7, 5, 3 then. */
+    private static Nave fourWears(String pole, String people) {
+        Nave x = Nave.by(pole.repeat(4) + people).years(1).due(1, "lace", 2).years(1).due(2, "lace", 1).years(1).due(3, "lace", 0);
+        for (int k = 0; k < 4; k++) {
+            x.tells(1, k, "pole", k, 3);
+        }
+        return x;
+    }
+
+    @Says(promise = TERMS, sentence = WEARS)
+    static void wearOfEachPoleItself() {
+        Nave x = fourWears("p509", "m35m35m35m35").due(15, "best", 1).rowIs(1, NONE, 0, 1, 2).refuses(NONE, "fewest");
+        x.fill(2, 0, 1, 2, 3).tells(1, 20, "seated", 2).fill(2, 2, 1, NONE, NONE).tells(0, 10, "seated", 2);
+        x.sits(0, 0).sits(1, 1).sits(2, 2).tells(15, 0, "holds").aside(15, "duel", 1).sits(3, 3).tells(7, 2, "holds");
+        x.aside(3, "gives", 0).aside(2, "gives", 1).aside(2, "gives", 2).aside(1, "gives", 3).tells(15, 8, "later", 1);
+        x.tells(5, 14, "later", 2).tells(0, 15, "later", 3).due(1, "laces", 1, 1).rowIs(1, 3).refuses(NONE, "laces", 2, 1);
+        x.tellsParts(1, 1, "odds", 2, 0).tellsParts(0, 1, "odds", 3, 0).tellsParts(15, 1, "mid", 0).due(8, "year").due(6, "year");
+        Nave rotten = fourWears("r620", "m10");
+        for (int k = 0; k < 4; k++) {
+            rotten.aside(k < 3 ? 0 : 4, "mark", k, ROTTEN);
+        }
+        Nave spliced = fourWears("s606", "m10").aside(5, "mark", 0, SPLICED).aside(5, "mark", 1, SPLICED).aside(4, "mark", 2, SPLICED);
+        spliced.aside(3, "mark", 3, SPLICED).due(0, "row", 1, 0).tells(2, 5, "test", 0, 1).tells(5, 4, "test", 1, 1);
+        spliced.tells(3, 4, "test", 2, 1).tells(1, 4, "test", 3, 1);
     }
 
     @Says(promise = TERMS, sentence = WEARS)

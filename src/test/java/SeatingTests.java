@@ -19,6 +19,8 @@ final class SeatingTests extends Tests {
         bestIs(Nave.by("p506 m35"), 5, 0);
         bestIs(Nave.by("p509 m35 m35"), 5, NONE, 0);
         bestIs(Nave.by("p510 m35 m35"), 10, 0, 0);
+        bestIs(Nave.by("p101 p101 m11 m11"), 2, 0, 1);
+        bestIs(Nave.by("p102 p101 m11 m11 m11 m11"), 3, NONE, 0, 0, 1);
         bestIs(Nave.by("d303 m76 m11"), 4, 0, 0);
         bestIs(Nave.by("d302 m76 m11"), 3, 0, NONE);
         bestIs(Nave.by("d301 m76 m11"), 1, NONE, 0);

@@ -184,6 +184,17 @@ final class TextTerms extends Tests {
         faultIs(16, "p160p160p160p160p160p160m19");
     }
 
+    /** One of PEOPLE, on the last of four POLES: what each call says of it. */
+    @Says(promise = TERMS, sentence = POLES)
+    static void lastOfFourPoles() {
+        Nave x = Nave.by("p100p100p100p505m35").due(5, "best", 0).rowIs(0, 3).tells(1, 8, "fewest").tells(0, 5, "seated", 0);
+        x.aside(5, "duel", 1).aside(0, "duel", 2).aside(5, "duel", 3).due(5, "sit", 0, 3).tells(1, 3, "one", 0, 2);
+        x.tells(1, 1, "pole", 3, 6).tells(1, 5, "pole", 3, 5).tells(15, 0, "holds").due(2, "gives", 3).tells(0, 8, "later", 2);
+        x.due(1, "laces", 2, 1).rowIs(1, NONE, 3).tellsParts(3, 4, "odds", 0, 3).tellsParts(15, 4, "mid", 3).aside(5, "duel", 0);
+        x.aside(0, "duel", 2).due(0, "year").tells(1, 2, "pole", 3, 3).tells(7, 4, "holds").tellsParts(0, 1, "odds", 0, 3);
+        x.due(8, "year").due(8, "count", 4).tells(1, 1, "pole", 3, 7).due(NONE, "gives", 3).aside(0, "duel", 1);
+    }
+
     @Says(promise = TERMS, sentence = POLES)
     static void tallOneToNine() {
         for (int kind = POLE; kind <= OAK; kind++) {
@@ -220,6 +231,17 @@ final class TextTerms extends Tests {
         faultIs(19, "p160m19m19m19m19m19m19");
         faultIs(15, "m19m19m19m19m19m19p160");
         faultIs(19, "p160m19m19m19m19m19m19m19");
+    }
+
+    /** The last of five PEOPLE, who alone is DEVOUT: what each call says. */
+    @Says(promise = TERMS, sentence = PEOPLE)
+    static void lastOfFivePeople() {
+        Nave x = Nave.by("p560m10m20m30m40m55").due(5, "best", 1).rowIs(1, NONE, NONE, NONE, NONE, 0).tells(0, 5, "seated", 1);
+        x.aside(5, "duel", 1).aside(0, "duel", 2).due(7, "sit", 4, 0).due(16, "count", 5).tells(1, 16, "pole", 0, 6);
+        x.tells(1, 7, "pole", 0, 5).tells(1, 0, "one", 4, 2).tells(1, 5, "one", 4, 3).due(5, "count", 6).tells(5, 0, "later", 40);
+        x.tellsParts(3, 4, "odds", 4, 3).tellsParts(0, 1, "odds", 3, 3).tellsParts(15, 4, "mid", 3).aside(5, "duel", 0);
+        x.aside(0, "duel", 2).aside(5, "duel", 3).due(5, "down", 4).due(0, "count", 5).due(5, "lots", 1, 5).tells(1, 0, "one", 4, 2);
+        x.due(0, "lots", 1, 5).tells(1, NONE, "one", 4, 2).tells(1, 1, "fewest");
     }
 
     @Says(promise = TERMS, sentence = PEOPLE)

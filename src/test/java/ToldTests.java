@@ -24,12 +24,7 @@ final class ToldTests extends Tests {
             "mark 1 2", "bears 0 0", "row 3 4", "copy 0 0 3 0 2", "tear 3", "text 1 9", "put 1 0 112", "fault 0", "nave 0", "asked",
         };
         for (String call : others) {
-            String[] words = call.split(" ");
-            int[] numbers = new int[words.length - 1];
-            for (int j = 0; j < numbers.length; j++) {
-                numbers[j] = Integer.parseInt(words[j + 1]);
-            }
-            if (x.call(words[0], numbers) == FINDING) {
+            if (x.callBy(call) == FINDING) {
                 Check.fail(call + " is refused");
             }
             x.due(31, "asked");
@@ -226,6 +221,22 @@ final class ToldTests extends Tests {
         h = fold(fold(h, signs.length()), signs.chars().toArray());
         h = fold(h, 2, 32, -56, MISSING, MISSING);
         x.due(h, "digest").due(h, "digest");
+    }
+
+    @Says(promise = 44, sentence = "of each POLE pole() 0 to 7; of each of PEOPLE one() 0 to 3;")
+    static void digestOfFourPolesOrFivePeople() {
+        String[] naves = {"p101r202l303s404m19", "d505m11m22m33m44m55"};
+        int[][] counts = {{4, 1, 0, 0, 0, 0, 0, 0, 0, 1, 0, 2}, {1, 5, 0, 0, 0, 0, 0, 0, 0, 1, 0, 1}};
+        int[][] all = {
+            {0, 1, 1, 0, 1, 0, 0, 0, 1, 2, 2, 0, 2, 0, 0, 0, 2, 3, 3, 0, 3, 0, 0, 0, 3, 4, 4, 0, 0, 0, 0, 0, 1, 9, NONE, 0},
+            {4, 5, 5, 0, 15, 0, 0, 0, 1, 1, NONE, 0, 2, 2, NONE, 0, 3, 3, NONE, 0, 4, 4, NONE, 0, 5, 5, NONE, 0},
+        };
+        for (int j = 0; j < naves.length; j++) {
+            long h = fold(fold(fold(17, counts[j]), all[j]), MISSING, MISSING, MISSING);
+            h = fold(h, MISSING, MISSING, MISSING, MISSING, MISSING, MISSING, naves[j].length());
+            h = fold(fold(h, naves[j].chars().toArray()), MISSING, MISSING, MISSING);
+            Nave.by(naves[j]).due(h, "digest");
+        }
     }
 
     @Says(promise = 44, sentence = "of each ROW its size (-1: missing) and places, of each TEXT likewise.")

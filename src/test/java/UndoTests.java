@@ -9,7 +9,7 @@ final class UndoTests extends Tests {
         String[] deeds = {"sit 0 0", "sit 1 1", "year", "stone", "lace 0", "down 0", "year"};
         digests[0] = x.call("digest");
         for (int j = 0; j < deeds.length; j++) {
-            act(x, deeds[j]);
+            x.callBy(deeds[j]);
             digests[j + 1] = x.call("digest");
         }
         for (int n = 7; n >= 0; n--) {
@@ -17,19 +17,10 @@ final class UndoTests extends Tests {
         }
         for (int n = 0; n <= 7; n++) {
             for (int j = 0; j < 7; j++) {
-                act(x, deeds[j]);
+                x.callBy(deeds[j]);
             }
             x.due(digests[7], "digest").due(7 - n, "undo", n).due(digests[n], "digest").due(n, "undo", 0);
         }
-    }
-
-    private static void act(Nave x, String deed) {
-        String[] words = deed.split(" ");
-        int[] numbers = new int[words.length - 1];
-        for (int j = 0; j < numbers.length; j++) {
-            numbers[j] = Integer.parseInt(words[j + 1]);
-        }
-        x.call(words[0], numbers);
     }
 
     @Says(promise = 21, sentence = UNDONE)
