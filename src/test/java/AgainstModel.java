@@ -112,15 +112,19 @@ final class AgainstModel {
     private boolean same(String name, Object... arguments) throws ReflectiveOperationException {
         boolean alike = answersAlike(name, arguments);
         if (name.equals("odds") || name.equals("mid")) {
-            alike = alike && answersAlike("upper") && answersAlike("lower");
+            alike = alike && looksAlike("upper") && looksAlike("lower");
         }
-        return alike && answersAlike("asked") && answersAlike("finding") && answersAlike("digest");
+        return alike && looksAlike("asked") && looksAlike("finding") && looksAlike("digest");
     }
 
     private boolean answersAlike(String name, Object... arguments) throws ReflectiveOperationException {
+        path.append(name).append(Arrays.toString(arguments)).append(' ');
+        return looksAlike(name, arguments);
+    }
+
+    private boolean looksAlike(String name, Object... arguments) throws ReflectiveOperationException {
         Class<?>[] types = new Class<?>[arguments.length];
         Arrays.fill(types, int.class);
-        path.append(name).append(Arrays.toString(arguments)).append(' ');
         calls++;
         Object got = PoleNave.class.getMethod(name, types).invoke(nave, arguments);
         Object want = Model.class.getMethod(name, types).invoke(model, arguments);
