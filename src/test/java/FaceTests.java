@@ -1,5 +1,4 @@
 import java.io.IOException;
-import java.lang.management.ManagementFactory;
 import java.lang.reflect.Constructor;
 import java.lang.reflect.Field;
 import java.lang.reflect.Method;
@@ -127,8 +126,7 @@ final class FaceTests {
      * All calls of a run live in one room of 7.3 million fields and elements, so the dearest calls of one object, taken
      * 512 times, may not fill more than a hundredth of it.
      */
-    static void allCallsStayInTheRoom() {
-        com.sun.management.ThreadMXBean memory = (com.sun.management.ThreadMXBean) ManagementFactory.getThreadMXBean();
+    static void allCallsStayInTheRoom() throws ReflectiveOperationException {
         PoleNave x = new PoleNave();
         String signs = "d960l960k960r960m19m28m37m46m55";
         x.text(0, signs.length());
@@ -138,7 +136,7 @@ final class FaceTests {
         x.nave(0);
         x.row(1, 39);
         long most = 7_300_000L * Integer.BYTES / 100;
-        long before = memory.getThreadAllocatedBytes(Thread.currentThread().getId());
+        long before = bytesMade();
         for (int j = 0; j < 64; j++) {
             x.best(0);
             x.fewest();
@@ -149,9 +147,20 @@ final class FaceTests {
             x.undo(0);
             x.digest();
         }
-        long made = memory.getThreadAllocatedBytes(Thread.currentThread().getId()) - before;
+        long made = bytesMade() - before;
         if (made > most) {
             Check.fail("512 calls made " + made + " bytes of objects, at most " + most + " are well");
+        }
+    }
+
+    /** By a part of the library that not every machine has; 0 without it. */
+    private static long bytesMade() throws ReflectiveOperationException {
+        try {
+            Object memory = Class.forName("java.lang.management.ManagementFactory").getMethod("getThreadMXBean").invoke(null);
+            Method bytes = Class.forName("com.sun.management.ThreadMXBean").getMethod("getThreadAllocatedBytes", long.class);
+            return (long) bytes.invoke(memory, Thread.currentThread().getId());
+        } catch (ClassNotFoundException e) {
+            return 0;
         }
     }
 
