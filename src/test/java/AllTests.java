@@ -13,7 +13,7 @@ public final class AllTests {
         ChanceTests.class, ToldTests.class,
     };
     /** Their tests are those whose names begin with "all". */
-    private static final Class<?>[] OF_ALL = {DocumentTests.class, FaceTests.class, RestTests.class, AgainstModel.class};
+    private static final Class<?>[] OF_ALL = {DocumentTests.class, FaceTests.class, RestTests.class, AgainstModel.class, ReadmeTests.class};
     private static final long LONGEST_MILLIS = 120_000;
 
     public static void main(String[] args) throws InterruptedException {

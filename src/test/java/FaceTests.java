@@ -5,6 +5,8 @@ import java.lang.reflect.Method;
 import java.lang.reflect.Modifier;
 import java.nio.file.Files;
 import java.nio.file.Path;
+import java.util.ArrayList;
+import java.util.List;
 import java.util.TreeMap;
 import java.util.TreeSet;
 
@@ -119,6 +121,47 @@ final class FaceTests {
             if (m.getName().startsWith("lambda$")) {
                 Check.fail("a lambda in " + c + " against LANGUAGE.md");
             }
+        }
+    }
+
+    /** Rule 11, as far as the file's lines and the compiled classes show it. */
+    static void allSizesOfTheLanguage() throws IOException {
+        List<Class<?>> classes = new ArrayList<>(List.of(PoleNave.class.getDeclaredClasses()));
+        classes.add(PoleNave.class);
+        atMost("classes of the file", classes.size(), 12);
+        for (Class<?> c : classes) {
+            int fields = 0;
+            for (Field f : c.getDeclaredFields()) {
+                fields += Modifier.isStatic(f.getModifiers()) ? 0 : 1;
+            }
+            atMost("fields of " + c, fields, 20);
+            for (Method m : c.getDeclaredMethods()) {
+                atMost("parameters of " + m, m.getParameterCount(), 7);
+            }
+        }
+        int methods = 0;
+        int begin = 0;
+        String end = null;
+        List<String> lines = Files.readAllLines(SOURCE);
+        for (int line = 0; line < lines.size(); line++) {
+            String text = lines.get(line);
+            if (end == null && text.matches(" {4}( {4})?\\w.*\\) \\{")) {
+                methods++;
+                begin = line;
+                end = " ".repeat(text.length() - text.stripLeading().length()) + "}";
+            } else if (text.equals(end)) {
+                atMost("lines of what begins in line " + (begin + 1), line - begin + 1, 60);
+                end = null;
+            }
+        }
+        if (methods < FACE.length || end != null) {
+            Check.fail("methods can't be told by the file's lines");
+        }
+    }
+
+    private static void atMost(String what, int many, int most) {
+        if (many > most) {
+            Check.fail(many + " " + what + ", at most " + most + " by rule 11");
         }
     }
 
